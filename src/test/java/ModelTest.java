@@ -1,5 +1,6 @@
 import java.math.BigInteger;
 import java.util.ArrayList;
+import java.util.Arrays;
 import java.util.List;
 import java.util.Random;
 
@@ -8,7 +9,7 @@ import java.util.Random;
  * the document's words and reckons everything anew with BigInteger.
  */
 public final class ModelTest {
-    private static final int RUNS = 1200;
+    private static final int RUNS = 400;
     private static final int CALLS = 512;
     private static final int MAX_SHOWN = 20;
 
@@ -45,7 +46,7 @@ public final class ModelTest {
             }
             if (!got.equals(want)) {
                 wrong++;
-                System.out.println("seed " + seed + ", call " + i + " " + java.util.Arrays.toString(call)
+                System.out.println("seed " + seed + ", call " + i + " " + Arrays.toString(call)
                         + ": answered " + got + ", due is " + want);
                 return;
             }
@@ -199,6 +200,7 @@ public final class ModelTest {
         private final List<Integer> lengths = new ArrayList<>();
         private final int[][] taps = new int[20][8];
         private final List<int[]> entries = new ArrayList<>();
+        private final BigInteger[][][] mores = new BigInteger[8][61][];
         private int above = 1;
         private int below = 100;
         private String upper = "";
@@ -321,12 +323,19 @@ public final class ModelTest {
             return ways.multiply(BigInteger.valueOf(a).pow(k)).multiply(BigInteger.valueOf(b - a).pow(n - k));
         }
 
+        /** Kept by kind and n, for the odds of a kind never change. */
         private BigInteger more(int kind, int n, int k) {
-            BigInteger sum = BigInteger.ZERO;
-            for (int i = k + 1; i <= n; i++) {
-                sum = sum.add(just(kind, n, i));
+            if (mores[kind][n] == null) {
+                mores[kind][n] = new BigInteger[n + 1];
+                for (int from = 0; from <= n; from++) {
+                    BigInteger sum = BigInteger.ZERO;
+                    for (int i = from + 1; i <= n; i++) {
+                        sum = sum.add(just(kind, n, i));
+                    }
+                    mores[kind][n][from] = sum;
+                }
             }
-            return sum;
+            return mores[kind][n][k];
         }
 
         private BigInteger all(int kind, int n) {
@@ -336,11 +345,9 @@ public final class ModelTest {
         private int count(int pipe, int kind) {
             int n = carried(pipe, kind);
             BigInteger bound = all(kind, n).multiply(BigInteger.valueOf(above));
-            BigInteger sum = more(kind, n, 0);
             int k = 0;
-            while (sum.multiply(BigInteger.valueOf(below)).compareTo(bound) > 0) {
+            while (more(kind, n, k).multiply(BigInteger.valueOf(below)).compareTo(bound) > 0) {
                 k++;
-                sum = sum.subtract(just(kind, n, k));
             }
             return k;
         }
@@ -429,12 +436,15 @@ public final class ModelTest {
 
         private long farthest() {
             fits(!parents.isEmpty());
-            int worst = 0;
             for (int pipe = 0; pipe < parents.size(); pipe++) {
                 fits(size(pipe) >= 0);
             }
+            int worst = 0;
+            long least = pressure(0, 0);
             for (int pipe = 1; pipe < parents.size(); pipe++) {
-                worst = pressure(pipe, 0) < pressure(worst, 0) ? pipe : worst;
+                long left = pressure(pipe, 0);
+                worst = left < least ? pipe : worst;
+                least = Math.min(left, least);
             }
             return worst;
         }

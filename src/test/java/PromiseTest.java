@@ -331,6 +331,11 @@ public final class PromiseTest {
         reads(x, "5", "16");
         writeUnreduced();
         writeMost();
+        int[][] odds = {{1, 2}, {1, 3}, {3, 7}, {7, 10}, {20, 512}, {1, 997}, {450, 990}, {1, 1000}};
+        for (int[] pair : odds) {
+            writeAll(pair[0], pair[1], 60);
+            writeAll(pair[0], pair[1], 41);
+        }
     }
 
     /** Odds that are not told in lowest terms. */
@@ -358,6 +363,36 @@ public final class PromiseTest {
         BigInteger some = BigInteger.valueOf(1000).pow(60).subtract(BigInteger.ONE);
         paper(x, 0, 0, 0, true, some.toString(), all);
         paper(x, 0, 0, 60, true, "0", "1");
+    }
+
+    /** All odds of a kind, by their digits' number and what they leave. */
+    private static void writeAll(int a, int b, int n) {
+        UseOdds x = new UseOdds();
+        x.kind(1, a, b);
+        x.pipe(-1, 1);
+        x.taps(0, 0, n);
+        BigInteger all = BigInteger.valueOf(b).pow(n);
+        BigInteger more = BigInteger.ZERO;
+        BigInteger ways = BigInteger.ONE;
+        for (int i = n; i >= 0; i--) {
+            int k = i;
+            BigInteger just = ways.multiply(BigInteger.valueOf(a).pow(k))
+                    .multiply(BigInteger.valueOf(b - a).pow(n - k));
+            leaves(x, k, false, just, all);
+            leaves(x, k, true, more, all);
+            more = more.add(just);
+            ways = ways.multiply(BigInteger.valueOf(k)).divide(BigInteger.valueOf(n - k + 1));
+        }
+    }
+
+    private static void leaves(UseOdds x, int k, boolean more, BigInteger over, BigInteger under) {
+        BigInteger common = over.gcd(under);
+        BigInteger upper = over.divide(common);
+        BigInteger lower = under.divide(common);
+        BigInteger prime = BigInteger.valueOf(999983);
+        due(upper.toString().length() + lower.toString().length(), () -> x.write(0, 0, k, more));
+        due(upper.mod(prime).intValue(), () -> x.rest(0, 999983));
+        due(lower.mod(prime).intValue(), () -> x.rest(1, 999983));
     }
 
     private static void digits() {
@@ -652,6 +687,7 @@ public final class PromiseTest {
         due(5, () -> x.pipe(3, 1));
         due(3, () -> x.farthest());
         farthestWithoutList();
+        farthestOfMost();
     }
 
     private static void farthestWithoutList() {
@@ -660,6 +696,22 @@ public final class PromiseTest {
         state(() -> x.farthest());
         x.entry(1, 1, 1);
         due(0, () -> x.farthest());
+    }
+
+    private static void farthestOfMost() {
+        UseOdds x = new UseOdds();
+        x.kind(1, 1, 2);
+        x.entry(1, 1, 1);
+        for (int i = 0; i < 20; i++) {
+            x.pipe(i - 1, 1000);
+        }
+        due(0, () -> x.farthest());
+        x.taps(19, 0, 1);
+        due(19, () -> x.farthest());
+        due(-20000, () -> x.pressure(19, 0));
+        x.gone(19, 0, 1);
+        x.taps(18, 0, 1);
+        due(18, () -> x.farthest());
     }
 
     /** Pipes 1 and 3 hang on pipe 0, pipe 2 on pipe 1; 15 taps with odds 1 / 2, none with 1 / 3. */

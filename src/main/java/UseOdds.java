@@ -264,7 +264,7 @@ public final class UseOdds {
         if (cube < 1) {
             return NONE;
         }
-        // A flow that has a size is a million at most, so the product stays below 10^15.
+        // A flow that has a size is a million at most, so the product is 10^15 at most.
         return (long) tree.lengths[pipe] * flow * flow / cube;
     }
 

@@ -19,7 +19,7 @@ public final class EdgeTest {
     private static final int JUST = 0;
     private static final int MORE = 1;
 
-    private static int sentences = 0;
+    private static int edges = 0;
     private static int checks = 0;
     private static int wrong = 0;
 
@@ -37,7 +37,7 @@ public final class EdgeTest {
         promises8To13();
         promises14To16();
         promises17To19();
-        System.out.println(sentences + " sentences, " + checks + " checks, " + wrong + " wrong");
+        System.out.println(edges + " edges, " + checks + " checks, " + wrong + " wrong");
         if (wrong != 0) {
             System.exit(1);
         }
@@ -1201,7 +1201,7 @@ public final class EdgeTest {
     // ---- what the tests are made of
 
     private static Run edge(String sentence) {
-        sentences++;
+        edges++;
         return new Run(sentence);
     }
 
